@@ -1,25 +1,34 @@
 /** Counts the answers that are not as due, and ends a test. */
 final class Due {
     private int wrong = 0;
+    /** Told ahead of each wrong answer. */
+    private String about = "";
+
+    /** Names the case that the next answers are for. */
+    void begin(String name) {
+        about = name + ": ";
+    }
+
+    private void complain(String text) {
+        wrong++;
+        System.out.println(about + text);
+    }
 
     void same(String call, long got, long want) {
         if (got != want) {
-            wrong++;
-            System.out.println(call + " answered " + got + ", due is " + want);
+            complain(call + " answered " + got + ", due is " + want);
         }
     }
 
     void same(String call, String got, String want) {
         if (!got.equals(want)) {
-            wrong++;
-            System.out.println(call + " answered '" + got + "', due is '" + want + "'");
+            complain(call + " answered '" + got + "', due is '" + want + "'");
         }
     }
 
     void hold(String claim, boolean holds) {
         if (!holds) {
-            wrong++;
-            System.out.println("does not hold: " + claim);
+            complain("does not hold: " + claim);
         }
     }
 
