@@ -48,6 +48,17 @@ public final class Promise03ReadTest {
         c.wrongAt(" ".repeat(240), 240);
     }
 
+    static void blanksBehindOlderQueriesAreWrongToo(Case c) {
+        c.reads("a b", 3);
+        c.reads("(c)", 3);
+        c.wrongAt("  ", 2);
+        c.reads("d", 2);
+        c.wrongAt(" ", 1);
+        c.wrongAt("", 0);
+        c.lenient(" ", QueryTexts.NONE, "0");
+        c.prints("d");
+    }
+
     static void oneClauseIsAQuery(Case c) {
         c.reads("a", 2);
     }

@@ -10,12 +10,18 @@ public final class Promise07SignTest {
             int place = i;
             c.told("sign(" + k + ", " + j + ", " + i + ")", () -> c.x.sign(k, j, place), "" + (int) word.charAt(i));
         }
-        c.told("sign behind the last", () -> c.x.sign(k, j, word.length()), Due.OUTSIDE_ROW);
+        for (int i = word.length(); i <= 9; i++) {
+            int place = i;
+            c.told("sign behind the last, " + i, () -> c.x.sign(k, j, place), Due.OUTSIDE_ROW);
+        }
         c.told("sign ahead of the first", () -> c.x.sign(k, j, -1), Due.OUTSIDE_ROW);
     }
 
     private static void hasNoWord(Case c, int k, int j) {
-        c.told("sign(" + k + ", " + j + ", 0)", () -> c.x.sign(k, j, 0), Due.OUTSIDE_ROW);
+        for (int i = -1; i <= 9; i++) {
+            int place = i;
+            c.told("sign(" + k + ", " + j + ", " + i + ")", () -> c.x.sign(k, j, place), Due.OUTSIDE_ROW);
+        }
     }
 
     static void aWordOf1Sign(Case c) {
@@ -29,8 +35,12 @@ public final class Promise07SignTest {
     }
 
     static void aWordBehindMarkAndField(Case c) {
-        c.reads("+a:bc~1^2", 2);
+        c.reads("+a:bc~1^2 d:\"ef g\" -b:{h..i}", 4);
         spells(c, 1, 0, "bc");
+        spells(c, 2, 0, "ef");
+        spells(c, 2, 1, "g");
+        spells(c, 3, 0, "h");
+        spells(c, 3, 1, "i");
     }
 
     static void aWordHasWord0Alone(Case c) {

@@ -212,6 +212,15 @@ public final class Promise12FitsTest {
         c.words(1, 0, "b");
         c.reads("\"a b\"~9", 2);
         c.same("fits(1, 0)", c.x.fits(1, 0), 0);
+        c.same("fits(1, 1)", c.x.fits(1, 1), 0);
+    }
+
+    static void aQuoteDoesNotReachFromAFullFieldIntoTheNext(Case c) {
+        c.words(0, 1, "b b b b b b b b b b b a");
+        c.words(0, 2, "b");
+        c.reads("\"a b\"~9 c:\"a b\"~9", 3);
+        c.same("fits(1, 0)", c.x.fits(1, 0), 0);
+        c.same("fits(2, 0)", c.x.fits(2, 0), 0);
     }
 
     static void wordsThatWereClearedAreNotInAQuote(Case c) {
@@ -233,6 +242,16 @@ public final class Promise12FitsTest {
             for (int document = 0; document < 4; document++) {
                 c.same("fits(" + k + ", " + document + ")", c.x.fits(k, document), k - 1 == document ? 1 : 0);
             }
+        }
+    }
+
+    static void aFieldToldAtEachCore(Case c) {
+        c.words(0, 0, "w");
+        c.words(1, 1, "w");
+        c.reads("b:w b:\"w\" b:[w..w] b:{v..x} b:w~1 b:(w)", 8);
+        for (int k = 1; k < 8; k++) {
+            c.same("fits(" + k + ", 0)", c.x.fits(k, 0), 0);
+            c.same("fits(" + k + ", 1)", c.x.fits(k, 1), 1);
         }
     }
 
@@ -392,6 +411,18 @@ public final class Promise12FitsTest {
         int[] wants = {0, 0, 1, 0, 1, 1, 1, 0};
         for (int k = 0; k < wants.length; k++) {
             c.same("fits(" + k + ", 0)", c.x.fits(k, 0), wants[k]);
+        }
+    }
+
+    static void clausesOfOlderQueriesAreNotAsked(Case c) {
+        c.words(0, 0, "a");
+        for (int round = 0; round < 2; round++) {
+            c.reads("+x +x +x (+y)@9", 6);
+            c.same("fits(0, 0) of an older one", c.x.fits(0, 0), 0);
+        }
+        for (int round = 0; round < 2; round++) {
+            c.reads("a", 2);
+            c.same("fits(0, 0)", c.x.fits(0, 0), 1);
         }
     }
 

@@ -119,6 +119,18 @@ public final class Promise13WorthTest {
         c.same("worth(5, 0)", c.x.worth(5, 0), 19L * 48 * 99 * 99);
     }
 
+    static void clausesOfOlderQueriesAddNothing(Case c) {
+        c.words(0, 0, "a b");
+        for (int round = 0; round < 2; round++) {
+            c.reads("b b b", 4);
+            c.same("worth(0, 0) of an older one", c.x.worth(0, 0), 3);
+        }
+        for (int round = 0; round < 2; round++) {
+            c.reads("a", 2);
+            c.same("worth(0, 0)", c.x.worth(0, 0), 1);
+        }
+    }
+
     static void nodesThatAreNoneAreUnknown(Case c) {
         c.reads("a b", 3);
         for (int k : new int[] {-1, 3, 24, 25, 26, Integer.MIN_VALUE, Integer.MAX_VALUE}) {

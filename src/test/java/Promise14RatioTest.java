@@ -47,6 +47,7 @@ public final class Promise14RatioTest {
         fill(c);
         c.reads("a", 2);
         c.same("ratio(3, 1)", c.x.ratio(3, 1), 0);
+        c.same("ratio(3, 2)", c.x.ratio(3, 2), 0);
         c.same("ratio(7, 1)", c.x.ratio(7, 1), 0);
     }
 

@@ -89,6 +89,18 @@ public final class Promise15WhyTest {
         c.same("why(0)", c.x.why(0), 2);
     }
 
+    static void clausesOfOlderQueriesAreNotTold(Case c) {
+        c.words(0, 0, "b");
+        for (int round = 0; round < 2; round++) {
+            c.reads("-b +x +x", 4);
+            c.same("why(0) of an older one", c.x.why(0), 2);
+        }
+        for (int round = 0; round < 2; round++) {
+            c.reads("a", 2);
+            c.same("why(0)", c.x.why(0), 0);
+        }
+    }
+
     static void documentsThatAreNoneAreUnknown(Case c) {
         c.reads("a", 2);
         for (int document : NO_DOCUMENTS) {
